@@ -1,0 +1,38 @@
+/** Counts the answers that are as due, and tells those that are not. */
+final class Due {
+    private static int passed;
+    private static int failed;
+
+    private Due() {
+    }
+
+    static void is(String call, long got, long want) {
+        if (got == want) {
+            passed++;
+            return;
+        }
+        failed++;
+        System.out.println(call + " answered " + got + ", due is " + want);
+    }
+
+    static void same(String what, String got, String want) {
+        if (got.equals(want)) {
+            passed++;
+            return;
+        }
+        failed++;
+        System.out.println(what + " is\n  " + got + "\n  due is\n  " + want);
+    }
+
+    static int failed() {
+        return failed;
+    }
+
+    /** The closing line; a test's last call. */
+    static void close() {
+        System.out.println(passed + " passed, " + failed + " failed");
+        if (failed > 0 || passed == 0) {
+            System.exit(1);
+        }
+    }
+}
