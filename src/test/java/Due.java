@@ -21,7 +21,14 @@ final class Due {
             return;
         }
         failed++;
-        System.out.println(what + " is\n  " + got + "\n  due is\n  " + want);
+        System.out.println(what + " is not as due:");
+        String[] gotLines = got.split("\n");
+        String[] wantLines = want.split("\n");
+        for (int i = 0; i < Math.min(gotLines.length, wantLines.length); i++) {
+            if (!gotLines[i].equals(wantLines[i])) {
+                System.out.println("  " + gotLines[i] + ", due is " + wantLines[i]);
+            }
+        }
     }
 
     static int failed() {
