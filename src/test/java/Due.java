@@ -2,8 +2,14 @@
 final class Due {
     private static int passed;
     private static int failed;
+    private static String words = "";
 
     private Due() {
+    }
+
+    /** The document's words that the answers from here on are held against. */
+    static void words(String of) {
+        words = "\"" + of + "\": ";
     }
 
     static void is(String call, long got, long want) {
@@ -12,7 +18,7 @@ final class Due {
             return;
         }
         failed++;
-        System.out.println(call + " answered " + got + ", due is " + want);
+        System.out.println(words + call + " answered " + got + ", due is " + want);
     }
 
     static void same(String what, String got, String want) {
@@ -21,7 +27,7 @@ final class Due {
             return;
         }
         failed++;
-        System.out.println(what + " is not as due:");
+        System.out.println(words + what + " is not as due:");
         String[] gotLines = got.split("\n");
         String[] wantLines = want.split("\n");
         for (int i = 0; i < Math.min(gotLines.length, wantLines.length); i++) {

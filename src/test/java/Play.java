@@ -59,11 +59,24 @@ final class Play {
         return text.toString();
     }
 
-    /** All that can be asked for without a change. */
+    /** What a setting is: it is set to something and back again. After a ROUND SEED and LIFE can't be asked for. */
+    static int setting(ServiceGame game, int what) {
+        int was = game.set(what, 1);
+        if (was >= 0) {
+            game.set(what, was);
+        }
+        return was;
+    }
+
+    /** All that can be asked for, with nothing changed in the end. */
     static String state(ServiceGame game) {
         StringBuilder all = new StringBuilder("count");
         for (int what = 0; what <= 5; what++) {
             all.append(' ').append(game.count(what));
+        }
+        all.append("\n  settings");
+        for (int what = 0; what <= 6; what++) {
+            all.append(' ').append(setting(game, what));
         }
         int teams = game.count(0);
         for (int t = 0; t < teams; t++) {
